@@ -29,8 +29,8 @@ public final class WatermarkJoin {
     private static final long MOST_NUMBER = 999999999999999999L;
     private static final long MOST_TIME = 100000000000000000L;
     private static final long MOST_HELD = 8000000000000000000L;
-    // A goal that is none: below every time, so that it never raises a watermark.
-    private static final long NONE = Long.MIN_VALUE;
+    // A goal that is none: below every watermark, so that it never raises one.
+    private static final long NONE = START - 1;
 
     // A word has at most eight letters, so that one long holds it, a byte a letter.
     private static final long SOURCE = 0x736f75726365L;

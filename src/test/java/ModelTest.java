@@ -81,7 +81,7 @@ public final class ModelTest {
             s.append(name).append(pick("=", " = ")).append("");
             int kind = draw(10);
             if (free.isEmpty() || kind < 3) {
-                s.append("source ").append(1 + draw(3)).append(" ").append(lagOrMarks());
+                s.append("source ").append(1 + draw(4)).append(" ").append(lagOrMarks());
                 s.append(chance(50) ? " after " + (1 + draw(4)) : "").append(chance(50) ? " group " + draw(2) : "");
             } else if (kind == 3 && free.size() > 1) {
                 s.append("union");
@@ -218,7 +218,7 @@ public final class ModelTest {
     }
 
     private int part() {
-        return chance(3) ? draw(8) - 2 : draw(2);
+        return chance(3) ? draw(8) - 2 : draw(chance(50) ? 2 : 4);
     }
 
     private int key() {

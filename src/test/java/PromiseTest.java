@@ -239,6 +239,13 @@ public final class PromiseTest {
         Check.due("9: without after never", 0, x.turn(1000));
         Check.due("9: c", 0, x.part(2, 0));
         Check.due("9: turn", 1005, x.told(1));
+        WatermarkJoin four = Check.built("a=source 4 marks after 2 group 3;align 3 0;");
+        four.mark(0, 3, 1);
+        four.mark(0, 2, 1);
+        Check.due("19: stopped parts of four", 2, four.told(7));
+        Check.due("9: the others of four", 2, four.turn(2));
+        Check.due("9: idle ones of four", 2, four.told(6));
+        Check.due("9: they stop no more", 0, four.told(7));
         Check.due("9: many at once", 2, Check.built("a=source 2 marks after 1000;").turn(1000));
         Check.due("9: one too few", 0, Check.built("a=source 2 marks after 1000;").turn(999));
     }
@@ -277,6 +284,8 @@ public final class PromiseTest {
             x.release(i, false, 0);
         }
         Check.due("10: there were 60", FULL, x.hold(3, 100));
+        Check.due("10: held of the 60", 2, x.told(5));
+        Check.due("11: no ticket beyond them", BAD, x.release(60, false, 0));
         Check.due("10: full ahead of past", FULL, x.hold(1, 0));
         Check.due("10: bad ahead of full", BAD, x.hold(0, 0));
     }
