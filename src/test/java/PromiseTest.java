@@ -410,7 +410,42 @@ public final class PromiseTest {
         Check.due("20: long lines", want.toString(), Check.page(y));
     }
 
+    /** Arguments far outside, with and without something built: refused, and nothing changes. */
+    private static void extremes(WatermarkJoin x, boolean isBuilt) {
+        int[] far = {Integer.MIN_VALUE, -1, 12, 1 << 30, Integer.MAX_VALUE};
+        long[] farTimes = {Long.MIN_VALUE, START, -MOST - 1, MOST + 1, END, Long.MAX_VALUE};
+        long asks = isBuilt ? Check.OUT_OF_BOUNDS : Check.ILLEGAL_STATE;
+        String before = seven(x);
+        for (int i : far) {
+            for (int k : far) {
+                Check.due("far: row", BAD, x.row(i, k, 0, 0) & x.row(0, i, 0, k) & x.row(i, 0, 0, k));
+                Check.due("far: mark", BAD, x.mark(i, k, 0) & x.mark(0, k, 0) & x.mark(i, 0, 0));
+                Check.due("far: end", BAD, x.end(i, k) & x.end(0, k) & x.end(i, 0));
+                Check.due("far: idle", BAD, x.idle(i, k, true) & x.idle(0, k, true) & x.idle(i, 0, false));
+                Check.due("far: release", BAD, x.release(i, true, k) & x.release(0, false, k) & x.release(i, true, 0));
+                Check.due("far: part", BAD, x.part(i, k) & x.part(0, k) & x.part(i, 0));
+                Check.due("far: promise", asks, Check.answer(() -> x.promise(i, k)) & Check.answer(() -> x.promise(0, k)));
+                Check.due("far: kept", asks, Check.answer(() -> x.kept(i, k)) & Check.answer(() -> x.kept(0, k)));
+                throwsBounds("far: out", () -> x.out(i, k));
+                throwsBounds("far: late", () -> x.late(i, k));
+            }
+            Check.due("far: feed", BAD, x.feed(i, i));
+            Check.due("far: hold", BAD, x.hold(i, 0));
+            Check.due("far: watermark", asks, Check.answer(() -> x.watermark(i)));
+            Check.due("far: isIdle", asks, Check.answer(() -> x.isIdle(i) ? 1 : 0));
+            Check.due("far: told", BAD, x.told(i));
+            Check.due("far: letter", BAD, x.letter(i));
+            Check.due("far: turn", BAD, i == 12 ? BAD : x.turn(i));
+        }
+        for (long time : farTimes) {
+            Check.due("far: times", BAD, x.row(0, 0, time, 0) & x.mark(0, 0, time) & x.hold(1, time));
+        }
+        Check.due("far: nothing changed", before, seven(x));
+    }
+
     public static void main(String[] args) {
+        extremes(new WatermarkJoin(), false);
+        extremes(Check.built("a=source 4 marks;h=hold a;"), true);
         newObject();
         feed();
         build();
