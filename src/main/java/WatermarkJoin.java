@@ -26,6 +26,8 @@ public final class WatermarkJoin {
     private static final int MOST_KEY = 9;
     private static final int LETTERS = 8;
     private static final int DIGITS = 18;
+    // What a long has at most.
+    private static final int WRITTEN_DIGITS = 19;
     private static final long MOST_NUMBER = 999999999999999999L;
     private static final long MOST_TIME = 100000000000000000L;
     private static final long MOST_HELD = 8000000000000000000L;
@@ -380,7 +382,7 @@ public final class WatermarkJoin {
             }
             long rest = number < 0 ? -number : number;
             int digits = 1;
-            for (long above = rest / 10; above > 0; above /= 10) {
+            for (long above = rest / 10; above > 0 && digits < WRITTEN_DIGITS; above /= 10) {
                 digits++;
             }
             if (digits > bytes.length - length) {

@@ -4,6 +4,7 @@ import java.util.function.LongSupplier;
 final class Check {
     static final long ILLEGAL_STATE = -111111111111111111L;
     static final long OUT_OF_BOUNDS = -222222222222222222L;
+    private static final long OTHER_CLASS = 0x7777777777777777L;
 
     private static int wrong = 0;
     private static int asked = 0;
@@ -15,7 +16,7 @@ final class Check {
         asked++;
         if (got != want) {
             wrong++;
-            System.out.println(what + " answered " + got + ", due is " + want);
+            System.out.println(what + " answered " + named(got) + ", due is " + named(want));
         }
     }
 
@@ -27,15 +28,32 @@ final class Check {
         }
     }
 
+    static void due(String what, boolean want, boolean got) {
+        due(what, want ? 1 : 0, got ? 1 : 0);
+    }
+
+    private static String named(long answer) {
+        return answer == ILLEGAL_STATE ? "IllegalStateException" : answer == OUT_OF_BOUNDS ? "IndexOutOfBoundsException"
+            : answer == OTHER_CLASS ? "an exception of a class below the due one" : Long.toString(answer);
+    }
+
+    static void throwsState(String what, LongSupplier call) {
+        due(what, ILLEGAL_STATE, answer(call));
+    }
+
+    static void throwsBounds(String what, LongSupplier call) {
+        due(what, OUT_OF_BOUNDS, answer(call));
+    }
+
     /** The answer, or a number that stands for the exception. */
     static long answer(LongSupplier call) {
         try {
             return call.getAsLong();
         } catch (IllegalStateException e) {
-            return e.getClass() == IllegalStateException.class ? ILLEGAL_STATE : 0x7777777777777777L;
+            return e.getClass() == IllegalStateException.class ? ILLEGAL_STATE : OTHER_CLASS;
         } catch (IndexOutOfBoundsException e) {
             // A machine's own exception is of a class below this one.
-            return e.getClass() == IndexOutOfBoundsException.class ? OUT_OF_BOUNDS : 0x7777777777777777L;
+            return e.getClass() == IndexOutOfBoundsException.class ? OUT_OF_BOUNDS : OTHER_CLASS;
         }
     }
 
@@ -71,6 +89,24 @@ final class Check {
         return answer >= 0 ? (x.fault() == 0 ? "none" : "built, fault " + x.fault()) : (-10 - answer) + ":" + x.fault();
     }
 
+    static void good(String text) {
+        due("fault of " + text, "none", faultOf(text));
+    }
+
+    /** An @ stands ahead of the token at which the fault is due. */
+    static void bad(String marked, int fault) {
+        due("fault of " + marked, marked.indexOf('@') + ":" + fault, faultOf(marked.replace("@", "")));
+    }
+
+    /** Sources of one part with marks, named a, b, c .. */
+    static String sources(int n) {
+        StringBuilder s = new StringBuilder();
+        for (int i = 0; i < n; i++) {
+            s.append((char) ('a' + i)).append("=source 1 marks;");
+        }
+        return s.toString();
+    }
+
     static String page(WatermarkJoin x) {
         int bytes = x.print();
         StringBuilder page = new StringBuilder();
@@ -96,6 +132,22 @@ final class Check {
             all.append(k > i ? ", " : "").append(out(x, k));
         }
         return all.toString();
+    }
+
+    /** All that can be seen but notes and the page: what a call that is refused must leave as it is. */
+    static String all(WatermarkJoin x) {
+        StringBuilder s = new StringBuilder();
+        for (int what = 0; what <= 8; what++) {
+            s.append(x.told(what)).append(' ');
+        }
+        for (int stream = 0; stream < x.told(0); stream++) {
+            s.append("| ").append(x.watermark(stream)).append(x.isIdle(stream) ? " idle " : " ");
+            s.append(x.kept(stream, 0)).append(' ').append(x.kept(stream, 1)).append(' ');
+            for (int part = 0; part < 4 && x.part(stream, part) >= 0; part++) {
+                s.append(x.part(stream, part)).append(':').append(x.promise(stream, part)).append(' ');
+            }
+        }
+        return s.toString();
     }
 
     static int wrongSoFar() {

@@ -31,7 +31,7 @@ public final class LanguageTest {
         TreeSet<String> names = new TreeSet<>();
         TreeSet<String> open = new TreeSet<>();
         for (Method method : WatermarkJoin.class.getDeclaredMethods()) {
-            if (Modifier.isPrivate(method.getModifiers())) {
+            if (Modifier.isPrivate(method.getModifiers()) || method.isSynthetic()) {
                 continue;
             }
             open.add(faceOf(method));
@@ -41,11 +41,10 @@ public final class LanguageTest {
         Check.due("the face", new TreeSet<>(FACE).toString(), open.toString());
         for (Class<?> own : WatermarkJoin.class.getDeclaredClasses()) {
             Check.due(own.getName() + " is static", 1, Modifier.isStatic(own.getModifiers()) ? 1 : 0);
-            for (Method method : own.getDeclaredMethods()) {
-                Check.due(method + " bears a name of the face", 0, names.contains(method.getName()) ? 1 : 0);
-            }
+            privateNames(own, names);
         }
-        Check.due("classes, some twelve", 1, WatermarkJoin.class.getDeclaredClasses().length < 12 ? 1 : 0);
+        privateNames(WatermarkJoin.class, names);
+        Check.due("classes, some twelve", true, WatermarkJoin.class.getDeclaredClasses().length <= 14);
         TreeSet<String> constants = new TreeSet<>();
         for (Field field : WatermarkJoin.class.getDeclaredFields()) {
             if (!Modifier.isPrivate(field.getModifiers())) {
@@ -59,18 +58,50 @@ public final class LanguageTest {
         Check.due("the class is final", 1, Modifier.isFinal(WatermarkJoin.class.getModifiers()) ? 1 : 0);
     }
 
+    private static void privateNames(Class<?> own, TreeSet<String> face) {
+        for (Method method : own.getDeclaredMethods()) {
+            if (Modifier.isPrivate(method.getModifiers())) {
+                Check.due(method + " bears a name of the face", false, face.contains(method.getName()));
+            }
+        }
+    }
+
+    private static void constants() {
+        for (Class<?> own : WatermarkJoin.class.getDeclaredClasses()) {
+            for (Field field : own.getDeclaredFields()) {
+                int modifiers = field.getModifiers();
+                Check.due(field + " is static and not final", false, Modifier.isStatic(modifiers) && !Modifier.isFinal(modifiers));
+            }
+        }
+        long[] due = {-1, -2, -3, -4, -5, -9_000_000_000_000_000_000L, 9_000_000_000_000_000_000L};
+        long[] got = {WatermarkJoin.BAD, WatermarkJoin.GONE, WatermarkJoin.STOPPED, WatermarkJoin.FULL, WatermarkJoin.PAST,
+            WatermarkJoin.START, WatermarkJoin.END};
+        for (int i = 0; i < due.length; i++) {
+            Check.due("constant " + i, due[i], got[i]);
+        }
+    }
+
     private static void text() throws java.io.IOException {
         String text = Files.readString(Path.of("src/main/java/WatermarkJoin.java"));
         String code = text.replaceAll("(?s)/\\*.*?\\*/", "").replaceAll("//.*", "").replaceAll("\"[^\"]*\"", "\"\"");
-        for (String word : List.of("import", "package", "catch", "try", "finally", "synchronized", "assert", "protected",
-            "instanceof", "String", "Random", "System", "Thread", "double", "float")) {
-            Check.due("the word " + word, 0, Pattern.compile("\\b" + word + "\\b").matcher(code).find() ? 1 : 0);
+        for (String word : List.of("package", "finally", "synchronized", "assert", "protected", "Random", "Thread", "Throwable",
+            "Exception", "Error", "ArrayIndexOutOfBoundsException", "NullPointerException", "ClassCastException",
+            "NegativeArraySizeException", "ArrayStoreException", "getMessage", "hashCode", "volatile", "native")) {
+            Check.due("the word " + word, false, Pattern.compile("\\b" + word + "\\b").matcher(code).find());
         }
-        Check.due("lambdas and method references", 0, code.contains("->") || code.contains("::") ? 1 : 0);
+        Check.due("method references", false, code.contains("::"));
+        Check.due("functions that end in Exact", false, Pattern.compile("Exact\\(").matcher(code).find());
+        Check.due("static initialiser blocks", false, Pattern.compile("\\bstatic\\s*\\{").matcher(code).find());
+        Matcher imported = Pattern.compile("(?m)^\\s*import (.*);").matcher(code);
+        while (imported.find()) {
+            Check.due(imported.group(), true, List.of("java.util.ArrayList", "java.util.List", "java.util.Arrays",
+                "java.util.Iterator", "java.util.NoSuchElementException").contains(imported.group(1)));
+        }
         Matcher thrown = Pattern.compile("throw new (\\w+)").matcher(code);
         while (thrown.find()) {
-            Check.due(thrown.group(), 1,
-                List.of("IllegalStateException", "IndexOutOfBoundsException").contains(thrown.group(1)) ? 1 : 0);
+            Check.due(thrown.group(), true, List.of("IllegalStateException", "IllegalArgumentException",
+                "IndexOutOfBoundsException", "ArithmeticException", "UnsupportedOperationException", "NoSuchElementException",
+                "RuntimeException").contains(thrown.group(1)));
         }
         methodLengths(Arrays.asList(code.split("\n")));
     }
@@ -83,13 +114,14 @@ public final class LanguageTest {
             }
             String close = line.replaceAll("\\S.*", "") + "}";
             int length = Math.max(1, Collections.indexOfSubList(lines.subList(i, lines.size()), List.of(close)));
-            Check.due("lines of " + line.strip(), 1, length <= 60 ? 1 : 0);
-            Check.due("parameters of " + line.strip(), 1, line.split(",").length <= 7 ? 1 : 0);
+            Check.due("lines of " + line.strip() + ", some sixty", true, length <= 66);
+            Check.due("parameters of " + line.strip(), true, line.split(",").length <= 7);
         }
     }
 
     public static void main(String[] args) throws java.io.IOException {
         face();
+        constants();
         text();
         Check.finish();
     }

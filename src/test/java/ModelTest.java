@@ -5,14 +5,16 @@ import java.util.function.LongSupplier;
 /** Runs of calls, drawn by a fixed row of numbers, on the class and on the model: all answers must be the same. */
 public final class ModelTest {
     private static final long MOST_TIME = 100_000_000_000_000_000L;
+    // What an object answers behind these is free.
+    private static final int MOST_CALLS = 512;
+    // So many calls are left for a look at all that there is, when a run ends.
+    private static final int CALLS_TO_LOOK = 190;
 
     private long seed;
     private WatermarkJoin x;
     private Model m;
     private final List<String> log = new ArrayList<>();
     private boolean differs;
-    private int outsSeen;
-    private int latesSeen;
     private int ticketsSeen;
 
     private ModelTest(long seed) {
@@ -164,29 +166,26 @@ public final class ModelTest {
     // ---- calls
 
     private void same(String call, LongSupplier mine, LongSupplier due) {
+        if (log.size() == MOST_CALLS || differs) {
+            return;
+        }
         log.add(call);
-        long want = modelAnswer(due);
+        long want = Check.answer(due);
         long got = Check.answer(mine);
-        if (want != got && !differs) {
+        if (want != got) {
             differs = true;
             System.out.println("a run differs at its last call: " + String.join("; ", log));
         }
         Check.due(call, want, got);
     }
 
-    private static long modelAnswer(LongSupplier call) {
-        try {
-            return call.getAsLong();
-        } catch (IllegalStateException e) {
-            return Check.ILLEGAL_STATE;
-        } catch (IndexOutOfBoundsException e) {
-            return Check.OUT_OF_BOUNDS;
-        }
+    private int callsLeft() {
+        return differs ? 0 : MOST_CALLS - log.size();
     }
 
     private void feedAndBuild(String text) {
         for (int i = 0; i < text.length(); ) {
-            int n = Math.min(text.length() - i, 1 + draw(8));
+            int n = Math.min(text.length() - i, chance(70) ? 8 : 1 + draw(8));
             long w = draw(2) == 0 ? 0 : -1;
             for (int k = 0; k < n; k++) {
                 w = w << 8 | text.charAt(i + k) & 255;
@@ -197,38 +196,37 @@ public final class ModelTest {
         }
         same("build() of [" + text + "]", () -> x.build(), () -> m.build());
         same("fault()", () -> x.fault(), () -> m.fault);
-        outsSeen = 0;
-        latesSeen = 0;
         ticketsSeen = 0;
     }
 
     private long time(int base) {
-        int kind = draw(40);
+        int kind = draw(60);
         if (kind == 0) {
-            return pick("a", "b").equals("a") ? MOST_TIME : -MOST_TIME;
+            return chance(50) ? MOST_TIME : -MOST_TIME;
         }
         if (kind == 1) {
-            return pick("a", "b").equals("a") ? MOST_TIME + 1 : Long.MIN_VALUE;
+            return chance(50) ? MOST_TIME + 1 : Long.MIN_VALUE;
         }
         return base + draw(14) - 6;
     }
 
     private int stream() {
-        return chance(3) ? draw(16) - 2 : draw(Math.max(1, x.told(0)));
+        return chance(3) ? draw(16) - 2 : draw(Math.max(1, m.streams.size()));
     }
 
-    private int part() {
-        return chance(3) ? draw(8) - 2 : draw(chance(50) ? 2 : 4);
+    private int partOf(int stream) {
+        Model.Node node = m.node(stream);
+        return node == null || node.parts.isEmpty() || chance(3) ? draw(8) - 2 : draw(node.parts.size());
     }
 
     private int key() {
-        return chance(2) ? pick("a", "b").equals("a") ? 10 : -1 : draw(3);
+        return chance(2) ? draw(2) * 11 - 1 : draw(3);
     }
 
     private int sourceStream() {
-        for (int tries = 0; tries < 8; tries++) {
+        for (int tries = 0; tries < 12; tries++) {
             int s = stream();
-            if (x.part(s, 0) >= 0) {
+            if (m.part(s, 0) >= 0) {
                 return s;
             }
         }
@@ -244,25 +242,35 @@ public final class ModelTest {
         return stream();
     }
 
+    private void mark(int s, int p, long t) {
+        same("mark(" + s + "," + p + "," + t + ")", () -> x.mark(s, p, t), () -> m.mark(s, p, t));
+    }
+
+    /** Every part promises something: without that, all that is aligned stands still. */
+    private void markAll() {
+        for (Model.Node n : m.streams) {
+            for (int p = 0; p < n.parts.size(); p++) {
+                mark(n.number, p, draw(5) - 9);
+            }
+        }
+    }
+
     private void act(int base) {
         int s = sourceStream();
-        int p = part();
+        int p = partOf(s);
         int k = key();
         long t = time(base);
         switch (draw(20)) {
-            case 0, 1, 2, 3, 4, 5, 6, 7, 8 ->
+            case 0, 1, 2, 3, 4, 5, 6, 7, 8, 9 ->
                 same("row(" + s + "," + p + "," + t + "," + k + ")", () -> x.row(s, p, t, k), () -> m.row(s, p, t, k));
-            case 9, 10, 11, 12 -> {
-                long low = t - draw(8);
-                same("mark(" + s + "," + p + "," + low + ")", () -> x.mark(s, p, low), () -> m.mark(s, p, low));
-            }
+            case 10, 11, 12 -> mark(s, p, t - draw(8));
             case 13 -> {
-                if (chance(20)) {
+                if (chance(15)) {
                     same("end(" + s + "," + p + ")", () -> x.end(s, p), () -> m.end(s, p));
                 }
             }
             case 14, 15 -> {
-                boolean on = chance(50);
+                boolean on = chance(40);
                 same("idle(" + s + "," + p + "," + on + ")", () -> x.idle(s, p, on), () -> m.idle(s, p, on));
             }
             case 16 -> {
@@ -272,7 +280,7 @@ public final class ModelTest {
             case 17, 18 -> {
                 int h = holdStream();
                 same("hold(" + h + "," + t + ")", () -> x.hold(h, t), () -> m.hold(h, t));
-                ticketsSeen++;
+                ticketsSeen = m.tickets.size();
             }
             default -> {
                 int ticket = draw(ticketsSeen + 2) - 1;
@@ -283,93 +291,127 @@ public final class ModelTest {
         }
     }
 
-    private void look() {
-        for (int i = -1; i <= 12; i++) {
-            int s = i;
-            same("watermark(" + s + ")", () -> x.watermark(s), () -> m.watermark(s));
-            same("isIdle(" + s + ")", () -> x.isIdle(s) ? 1 : 0, () -> m.isIdle(s) ? 1 : 0);
-            for (int k = -1; k <= 4; k++) {
-                int p = k;
-                same("promise(" + s + "," + p + ")", () -> x.promise(s, p), () -> m.promise(s, p));
-                same("part(" + s + "," + p + ")", () -> x.part(s, p), () -> m.part(s, p));
-                if (k < 3) {
-                    same("kept(" + s + "," + p + ")", () -> x.kept(s, p), () -> m.kept(s, p));
-                }
-            }
-        }
-        for (int i = -1; i <= 9; i++) {
-            int what = i;
-            same("told(" + what + ")", () -> x.told(what), () -> m.told(what));
-        }
-        lookAtNotes();
+    // ---- looks
+
+    private void lookAtStream(int s) {
+        same("watermark(" + s + ")", () -> x.watermark(s), () -> m.watermark(s));
+        same("isIdle(" + s + ")", () -> x.isIdle(s) ? 1 : 0, () -> m.isIdle(s) ? 1 : 0);
+        int side = draw(20) == 0 ? draw(2) * 3 - 1 : draw(2);
+        same("kept(" + s + "," + side + ")", () -> x.kept(s, side), () -> m.kept(s, side));
+    }
+
+    private void lookAtPart(int s, int p) {
+        same("promise(" + s + "," + p + ")", () -> x.promise(s, p), () -> m.promise(s, p));
+        same("part(" + s + "," + p + ")", () -> x.part(s, p), () -> m.part(s, p));
+    }
+
+    private void lookAtOut(int i, int what) {
+        same("out(" + i + "," + what + ")", () -> x.out(i, what), () -> m.out(i, what));
+    }
+
+    private void lookAtLate(int i, int what) {
+        same("late(" + i + "," + what + ")", () -> x.late(i, what), () -> m.late(i, what));
+    }
+
+    private void lookAtTold(int what) {
+        same("told(" + what + ")", () -> x.told(what), () -> m.told(what));
+    }
+
+    private void lookAtLetter(int i) {
+        same("letter(" + i + ")", () -> x.letter(i), () -> m.letter(i));
+    }
+
+    private void print() {
         same("print()", () -> x.print(), () -> m.print());
-        for (int i = -1; i <= m.written.length(); i++) {
-            int at = i;
-            same("letter(" + at + ")", () -> x.letter(at), () -> m.letter(at));
+    }
+
+    private void lookAnywhere() {
+        int s = stream();
+        switch (draw(8)) {
+            case 0 -> lookAtStream(s);
+            case 1 -> lookAtPart(s, partOf(s));
+            case 2 -> lookAtOut(m.outs.size() - draw(6), draw(6) - 1);
+            case 3 -> lookAtLate(m.lates.size() - draw(4), draw(6) - 1);
+            case 4 -> print();
+            case 5 -> lookAtLetter(draw(m.written.length() + 3) - 1);
+            default -> lookAtTold(draw(11) - 1);
         }
     }
 
-    private void lookAtNotes() {
-        for (int i = Math.max(0, outsSeen) - 1; i <= Math.min(301, m.outs.size()); i++) {
-            for (int what = -1; what <= 4; what++) {
-                int at = i;
-                int of = what;
-                same("out(" + at + "," + of + ")", () -> x.out(at, of), () -> m.out(at, of));
+    /** All streams, parts and counts, then what is left of the calls for rows that were noted. */
+    private void lookEverywhere() {
+        for (int what = 0; what <= 8; what++) {
+            lookAtTold(what);
+        }
+        for (Model.Node n : m.streams) {
+            lookAtStream(n.number);
+            for (int p = 0; p < n.parts.size(); p++) {
+                lookAtPart(n.number, p);
             }
         }
-        for (int i = Math.max(0, latesSeen) - 1; i <= Math.min(201, m.lates.size()); i++) {
-            for (int what = -1; what <= 4; what++) {
-                int at = i;
-                int of = what;
-                same("late(" + at + "," + of + ")", () -> x.late(at, of), () -> m.late(at, of));
+        print();
+        for (int i = 0; i < 20; i++) {
+            lookAtLetter(draw(m.written.length() + 2) - 1);
+        }
+        int rows = Math.max(1, m.outs.size() + m.lates.size());
+        while (callsLeft() > 0) {
+            int row = draw(rows + 1);
+            if (row < m.outs.size()) {
+                lookAtOut(row, draw(4));
+            } else {
+                lookAtLate(row - m.outs.size(), draw(4));
             }
         }
-        outsSeen = m.outs.size();
-        latesSeen = m.lates.size();
     }
 
-    private void run(int kind, int calls) {
+    private void run(int kind) {
         x = new WatermarkJoin();
         m = new Model();
         if (chance(10)) {
             act(0);
-            look();
+            lookAnywhere();
         }
         feedAndBuild(kind == 0 ? garbled(text()) : kind == 1 ? longText() : kind == 2 ? manyText() : text());
+        if (chance(70)) {
+            markAll();
+        }
         int base = 0;
-        for (int i = 0; i < calls && !differs; i++) {
+        while (callsLeft() > CALLS_TO_LOOK) {
             int before = log.size();
             act(base);
-            int acted = log.size();
-            if (chance(25)) {
+            if (chance(20)) {
                 base += draw(4);
             }
-            look();
-            if (!differs) {
-                // Looking changes nothing: only what was done is told when a run differs.
-                log.subList(acted, log.size()).clear();
+            if (chance(40) || log.size() == before) {
+                lookAnywhere();
             }
-            if (chance(1)) {
+            if (chance(1) && chance(40)) {
                 feedAndBuild(chance(50) ? garbled(text()) : text());
             }
-            if (log.size() < before) {
-                throw new IllegalStateException("the log of the test itself is wrong");
-            }
         }
+        lookEverywhere();
+    }
+
+    private static void atLeast(String what, int least, int seen) {
+        System.out.println(seen + " " + what);
+        Check.due("enough was seen of " + what, true, seen >= least);
     }
 
     public static void main(String[] args) {
-        int runs = args.length > 0 ? Integer.parseInt(args[0]) : 320;
-        int seen = 0;
+        int runs = args.length > 0 ? Integer.parseInt(args[0]) : 4000;
+        int outs = 0;
+        int lates = 0;
         int lost = 0;
         for (int i = 0; i < runs && Check.wrongSoFar() == 0; i++) {
             ModelTest test = new ModelTest(i);
-            int kind = i % 8;
-            test.run(kind, kind == 0 || kind == 2 ? 5 : 120);
-            seen += test.m.outs.size() + test.m.lates.size();
+            test.run(i % 8);
+            outs += test.m.outs.size();
+            lates += test.m.lates.size();
             lost += test.m.lost;
         }
-        System.out.println(seen + " rows noted, " + lost + " lost");
+        atLeast("rows out", 10 * runs, outs);
+        atLeast("rows late", 3 * runs, lates);
+        atLeast("rows and weights lost", runs, lost);
         Check.finish();
     }
 }

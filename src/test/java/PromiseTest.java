@@ -1,5 +1,3 @@
-import java.util.function.LongSupplier;
-
 /** Each promise of the document by itself, with answers that were worked out by hand. */
 public final class PromiseTest {
     private static final long START = WatermarkJoin.START;
@@ -10,15 +8,6 @@ public final class PromiseTest {
     private static final int STOPPED = WatermarkJoin.STOPPED;
     private static final int FULL = WatermarkJoin.FULL;
     private static final int PAST = WatermarkJoin.PAST;
-
-    private static void throwsState(String what, LongSupplier call) {
-        Check.due(what + " (" + Check.ILLEGAL_STATE + " is IllegalStateException)", Check.ILLEGAL_STATE, Check.answer(call));
-    }
-
-    private static void throwsBounds(String what, LongSupplier call) {
-        Check.due(what + " (" + Check.OUT_OF_BOUNDS + " is IndexOutOfBoundsException)", Check.OUT_OF_BOUNDS,
-            Check.answer(call));
-    }
 
     private static void newObject() {
         WatermarkJoin x = new WatermarkJoin();
@@ -36,12 +25,12 @@ public final class PromiseTest {
         Check.due("1: part", BAD, x.part(0, 0));
         Check.due("1: print", BAD, x.print());
         Check.due("1: letter", BAD, x.letter(0));
-        throwsState("1: watermark", () -> x.watermark(0));
-        throwsState("1: isIdle", () -> x.isIdle(-1) ? 1 : 0);
-        throwsState("1: promise", () -> x.promise(0, 0));
-        throwsState("1: kept", () -> x.kept(0, 2));
-        throwsBounds("1: out", () -> x.out(0, 0));
-        throwsBounds("1: late", () -> x.late(0, 0));
+        Check.throwsState("1: watermark", () -> x.watermark(0));
+        Check.throwsState("1: isIdle", () -> x.isIdle(-1) ? 1 : 0);
+        Check.throwsState("1: promise", () -> x.promise(0, 0));
+        Check.throwsState("1: kept", () -> x.kept(0, 2));
+        Check.throwsBounds("1: out", () -> x.out(0, 0));
+        Check.throwsBounds("1: late", () -> x.late(0, 0));
     }
 
     private static void feed() {
@@ -84,13 +73,13 @@ public final class PromiseTest {
         Check.due("3: as at first", "2 0 0 0 0 0 0", seven(x));
         Check.due("3: watermark", START, x.watermark(0));
         Check.due("3: kept", 0, x.kept(1, 0));
-        throwsBounds("3: out", () -> x.out(0, 0));
-        throwsBounds("3: late", () -> x.late(0, 0));
+        Check.throwsBounds("3: out", () -> x.out(0, 0));
+        Check.throwsBounds("3: late", () -> x.late(0, 0));
         Check.due("3: tickets from 0 on", 0, x.hold(1, 7));
         Check.due("3: the same text again", 2, Check.build(x, "b=source 1 marks;h=hold b;"));
         Check.due("3: no ticket", BAD, x.release(0, false, 0));
         Check.due("3: no streams", 0, Check.build(x, "align 0 1;"));
-        throwsBounds("3: but built", () -> x.watermark(0));
+        Check.throwsBounds("3: but built", () -> x.watermark(0));
         Check.due("3: turn", 0, x.turn(1));
         Check.due("3: print", 0, x.print());
     }
@@ -312,17 +301,17 @@ public final class PromiseTest {
 
     private static void looks() {
         WatermarkJoin x = Check.built("a=source 2 marks group 2;h=hold a;align 2 0;");
-        throwsBounds("12: -1", () -> x.watermark(-1));
-        throwsBounds("12: 2", () -> x.watermark(2));
-        throwsBounds("13: -1", () -> x.isIdle(-1) ? 1 : 0);
-        throwsBounds("13: 2", () -> x.isIdle(2) ? 1 : 0);
-        throwsBounds("14: no source", () -> x.promise(1, 0));
-        throwsBounds("14: no stream", () -> x.promise(2, 0));
-        throwsBounds("14: no part", () -> x.promise(0, 2));
-        throwsBounds("14: no part", () -> x.promise(0, -1));
-        throwsBounds("16: side", () -> x.kept(1, 2));
-        throwsBounds("16: side", () -> x.kept(0, -1));
-        throwsBounds("16: stream", () -> x.kept(2, 0));
+        Check.throwsBounds("12: -1", () -> x.watermark(-1));
+        Check.throwsBounds("12: 2", () -> x.watermark(2));
+        Check.throwsBounds("13: -1", () -> x.isIdle(-1) ? 1 : 0);
+        Check.throwsBounds("13: 2", () -> x.isIdle(2) ? 1 : 0);
+        Check.throwsBounds("14: no source", () -> x.promise(1, 0));
+        Check.throwsBounds("14: no stream", () -> x.promise(2, 0));
+        Check.throwsBounds("14: no part", () -> x.promise(0, 2));
+        Check.throwsBounds("14: no part", () -> x.promise(0, -1));
+        Check.throwsBounds("16: side", () -> x.kept(1, 2));
+        Check.throwsBounds("16: side", () -> x.kept(0, -1));
+        Check.throwsBounds("16: stream", () -> x.kept(2, 0));
         Check.due("12: at first", START, x.watermark(1));
         Check.due("13: at first", 0, x.isIdle(1) ? 1 : 0);
         Check.due("14: at first", START, x.promise(0, 1));
@@ -345,32 +334,18 @@ public final class PromiseTest {
     }
 
     private static void notes() {
-        WatermarkJoin x = Check.built("a=source 1 marks;");
-        for (int i = 0; i < 302; i++) {
-            x.row(0, 0, i, i % 10);
-        }
-        Check.due("17: counted", 302, x.told(2));
-        Check.due("17: the 300th", "0 299 9 1", Check.out(x, 299));
-        throwsBounds("17: beyond the first 300", () -> x.out(300, 1));
-        throwsBounds("17: beyond all", () -> x.out(302, 1));
-        throwsBounds("17: -1", () -> x.out(-1, 1));
-        throwsBounds("17: what", () -> x.out(0, 4));
-        throwsBounds("17: what", () -> x.out(0, -1));
-        x.mark(0, 0, 500);
-        for (int i = 0; i < 202; i++) {
-            x.row(0, 0, i, i % 10);
-        }
-        Check.due("18: counted", 202, x.told(3));
-        Check.due("18: the 200th", "0 199 9 1", Check.late(x, 199));
-        throwsBounds("18: beyond the first 200", () -> x.late(200, 1));
-        throwsBounds("18: beyond all", () -> x.late(202, 1));
-        throwsBounds("18: -1", () -> x.late(-1, 1));
-        throwsBounds("18: what", () -> x.late(0, 4));
-        throwsBounds("18: what", () -> x.late(0, -1));
-        WatermarkJoin y = Check.built("a=source 1 marks;");
-        y.row(0, 0, 1, 1);
-        throwsBounds("17: none such", () -> y.out(1, 1));
-        throwsBounds("18: none such", () -> y.late(0, 1));
+        WatermarkJoin x = Check.built("a=source 1 marks;h=hold a;d=delay h 4;b=source 2 marks;");
+        x.row(0, 0, 1, 5);
+        x.row(3, 1, 2, 6);
+        x.mark(3, 0, 3);
+        x.row(3, 0, 3, 7);
+        Check.due("17: the first one, with its stream and its time there", "2 5 5 1", Check.out(x, 0));
+        Check.due("17: the second one", "3 2 6 1", Check.out(x, 1));
+        Check.throwsBounds("17: no third one", () -> x.out(2, 0));
+        Check.due("18: the first one", "3 3 7 1", Check.late(x, 0));
+        Check.throwsBounds("18: no second one", () -> x.late(1, 0));
+        Check.due("19: out", 2, x.told(2));
+        Check.due("19: late", 1, x.told(3));
     }
 
     private static void print() {
@@ -397,55 +372,34 @@ public final class PromiseTest {
         Check.due("21: none such yet", BAD, x.letter(page.length()));
         Check.build(x, "a=b;");
         Check.due("21: stays", 'i', x.letter(page.length() - 5));
-        StringBuilder longest = new StringBuilder();
-        for (char c = 'a'; c < 'm'; c++) {
-            longest.append("name").append(c).append("xyz=source 1 lag 999999999999999999;");
-        }
-        WatermarkJoin y = Check.built(longest.toString());
-        StringBuilder want = new StringBuilder();
-        for (int i = 0; i < 12; i++) {
-            y.row(i, 0, -MOST, 0);
-            want.append(i).append(" name").append((char) ('a' + i)).append("xyz source -1100000000000000000\n");
-        }
-        Check.due("20: long lines", want.toString(), Check.page(y));
+        longestPage();
     }
 
-    /** Arguments far outside, with and without something built: refused, and nothing changes. */
-    private static void extremes(WatermarkJoin x, boolean isBuilt) {
-        int[] far = {Integer.MIN_VALUE, -1, 12, 1 << 30, Integer.MAX_VALUE};
-        long[] farTimes = {Long.MIN_VALUE, START, -MOST - 1, MOST + 1, END, Long.MAX_VALUE};
-        long asks = isBuilt ? Check.OUT_OF_BOUNDS : Check.ILLEGAL_STATE;
-        String before = seven(x);
-        for (int i : far) {
-            for (int k : far) {
-                Check.due("far: row", BAD, x.row(i, k, 0, 0) & x.row(0, i, 0, k) & x.row(i, 0, 0, k));
-                Check.due("far: mark", BAD, x.mark(i, k, 0) & x.mark(0, k, 0) & x.mark(i, 0, 0));
-                Check.due("far: end", BAD, x.end(i, k) & x.end(0, k) & x.end(i, 0));
-                Check.due("far: idle", BAD, x.idle(i, k, true) & x.idle(0, k, true) & x.idle(i, 0, false));
-                Check.due("far: release", BAD, x.release(i, true, k) & x.release(0, false, k) & x.release(i, true, 0));
-                Check.due("far: part", BAD, x.part(i, k) & x.part(0, k) & x.part(i, 0));
-                Check.due("far: promise", asks, Check.answer(() -> x.promise(i, k)) & Check.answer(() -> x.promise(0, k)));
-                Check.due("far: kept", asks, Check.answer(() -> x.kept(i, k)) & Check.answer(() -> x.kept(0, k)));
-                throwsBounds("far: out", () -> x.out(i, k));
-                throwsBounds("far: late", () -> x.late(i, k));
+    /** Read by two objects, half by each: its letters are more than the calls that one object is used for. */
+    private static void longestPage() {
+        StringBuilder text = new StringBuilder();
+        StringBuilder want = new StringBuilder();
+        for (int i = 0; i < 12; i++) {
+            String name = "name" + (char) ('a' + i) + "xyz";
+            text.append(name).append("=source 1 lag 999999999999999999;");
+            want.append(i).append(" ").append(name).append(" source -1100000000000000000 idle\n");
+        }
+        StringBuilder got = new StringBuilder();
+        for (int half = 0; half < 2; half++) {
+            WatermarkJoin x = Check.built(text.toString());
+            for (int i = 0; i < 12; i++) {
+                x.row(i, 0, -MOST, 0);
+                x.idle(i, 0, true);
             }
-            Check.due("far: feed", BAD, x.feed(i, i));
-            Check.due("far: hold", BAD, x.hold(i, 0));
-            Check.due("far: watermark", asks, Check.answer(() -> x.watermark(i)));
-            Check.due("far: isIdle", asks, Check.answer(() -> x.isIdle(i) ? 1 : 0));
-            Check.due("far: told", BAD, x.told(i));
-            Check.due("far: letter", BAD, x.letter(i));
-            Check.due("far: turn", BAD, i == 12 ? BAD : x.turn(i));
+            Check.due("20: bytes of long lines", 530, x.print());
+            for (int i = 265 * half; i < 265 * (half + 1); i++) {
+                got.append((char) x.letter(i));
+            }
         }
-        for (long time : farTimes) {
-            Check.due("far: times", BAD, x.row(0, 0, time, 0) & x.mark(0, 0, time) & x.hold(1, time));
-        }
-        Check.due("far: nothing changed", before, seven(x));
+        Check.due("20: long lines", want.toString(), got.toString());
     }
 
     public static void main(String[] args) {
-        extremes(new WatermarkJoin(), false);
-        extremes(Check.built("a=source 4 marks;h=hold a;"), true);
         newObject();
         feed();
         build();

@@ -3,170 +3,153 @@ public final class TextTest {
     private static final String A = "a=source 1 marks;";
     private static final String AB = "a=source 1 marks;b=source 1 marks;";
 
-    private static void good(String text) {
-        Check.due("fault of " + text, "none", Check.faultOf(text));
-    }
-
-    private static void bad(String marked, int fault) {
-        String text = marked.replace("@", "");
-        Check.due("fault of " + marked, marked.indexOf('@') + ":" + fault, Check.faultOf(text));
-    }
-
     private static void tokens() {
-        good("abcdefgh=source 1 marks;");
-        bad("@abcdefghi=source 1 marks;", 1);
-        bad("a=@sourceeee 1 marks;", 1);
-        good("\t\n\r a\t=\nsource\r1 marks ; \n");
-        good("a=source1marks;b=delay a5;");
-        bad("@\u000b" + A, 1);
-        bad("@A=source 1 marks;", 1);
-        bad("a@_=source 1 marks;", 1);
-        bad("a=source 1 marks;@\0", 1);
-        bad("a=source 1 marks;@\u00ff", 1);
-        bad("@+", 1);
-        good("a=source 1 lag 999999999999999999;");
-        bad("a=source 1 lag @1000000000000000000;", 1);
-        bad("a=source 1 lag @0000000000000000001;", 1);
-        good("a=source 000000000000000001 lag 000000000000000000;");
-        good("sources=source 1 marks;tolag=hold sources;");
+        Check.good("abcdefgh=source 1 marks;");
+        Check.bad("@abcdefghi=source 1 marks;", 1);
+        Check.bad("a=@sourceeee 1 marks;", 1);
+        Check.good("\t\n\r a\t=\nsource\r1 marks ; \n");
+        Check.good("a=source1marks;b=delay a5;");
+        Check.bad("@\u000b" + A, 1);
+        Check.bad("@A=source 1 marks;", 1);
+        Check.bad("a@_=source 1 marks;", 1);
+        Check.bad("a=source 1 marks;@\0", 1);
+        Check.bad("a=source 1 marks;@\u00ff", 1);
+        Check.bad("@+", 1);
+        Check.good("a=source 1 lag 999999999999999999;");
+        Check.bad("a=source 1 lag @1000000000000000000;", 1);
+        Check.bad("a=source 1 lag @0000000000000000001;", 1);
+        Check.good("a=source 000000000000000001 lag 000000000000000000;");
+        Check.good("sources=source 1 marks;tolag=hold sources;");
         String[] keywords = {"source", "lag", "marks", "after", "group", "union", "delay", "hold", "join", "from", "to",
             "window", "size", "step"};
         for (String keyword : keywords) {
-            bad("@" + keyword + "=source 1 marks;", 2);
-            bad(A + "h=hold @" + keyword + ";", 2);
+            Check.bad("@" + keyword + "=source 1 marks;", 2);
+            Check.bad(A + "h=hold @" + keyword + ";", 2);
         }
-        bad("align @= source 1 marks;", 2);
+        Check.bad("align @= source 1 marks;", 2);
     }
 
     private static void endings() {
-        bad("@", 2);
-        bad("  \n@", 2);
-        bad("a@", 2);
-        bad("a=source 1 marks@", 2);
-        bad("a=source 1 marks  @", 2);
-        bad("a=source 1 lag 5@", 2);
-        bad(AB + "j=join a b from -@", 2);
-        bad("align 1 @", 2);
+        Check.bad("@", 2);
+        Check.bad("  \n@", 2);
+        Check.bad("a@", 2);
+        Check.bad("a=source 1 marks@", 2);
+        Check.bad("a=source 1 marks  @", 2);
+        Check.bad("a=source 1 lag 5@", 2);
+        Check.bad(AB + "j=join a b from -@", 2);
+        Check.bad("align 1 @", 2);
     }
 
     private static void sources() {
-        good("a=source 4 lag 0 after 1000 group 3;");
-        good("a=source 4 marks after 1 group 0;");
-        good("a=source 1 marks group 0;");
-        bad("a=source @0 marks;", 5);
-        bad("a=source @5 marks;", 5);
-        bad("a=source @- 1 marks;", 2);
-        bad("a=source @marks;", 2);
-        bad("a=source 1 @;", 2);
-        bad("a=source 1 lag @;", 2);
-        bad("a=source 1 lag @marks;", 2);
-        bad("a=source 1 marks @5;", 2);
-        bad("a=source 1 marks after @0;", 5);
-        bad("a=source 1 marks after @1001;", 5);
-        bad("a=source 1 marks group @4;", 5);
-        bad("a=source 1 marks group 1 @after 2;", 2);
-        bad("a=source 1 marks after 2 @after 2;", 2);
-        bad("a @source 1 marks;", 2);
-        bad("a=@b;", 2);
-        bad("a=@align 1 2;", 2);
-        bad("a=source 1 marks;@;", 2);
+        Check.good("a=source 4 lag 0 after 1000 group 3;");
+        Check.good("a=source 4 marks after 1 group 0;");
+        Check.good("a=source 1 marks group 0;");
+        Check.bad("a=source @0 marks;", 5);
+        Check.bad("a=source @5 marks;", 5);
+        Check.bad("a=source @- 1 marks;", 2);
+        Check.bad("a=source @marks;", 2);
+        Check.bad("a=source 1 @;", 2);
+        Check.bad("a=source 1 lag @;", 2);
+        Check.bad("a=source 1 lag @marks;", 2);
+        Check.bad("a=source 1 marks @5;", 2);
+        Check.bad("a=source 1 marks after @0;", 5);
+        Check.bad("a=source 1 marks after @1001;", 5);
+        Check.bad("a=source 1 marks group @4;", 5);
+        Check.bad("a=source 1 marks group 1 @after 2;", 2);
+        Check.bad("a=source 1 marks after 2 @after 2;", 2);
+        Check.bad("a @source 1 marks;", 2);
+        Check.bad("a=@b;", 2);
+        Check.bad("a=@align 1 2;", 2);
+        Check.bad("a=source 1 marks;@;", 2);
     }
 
     private static void namesAndInputs() {
-        bad(A + "@a=source 1 marks;", 3);
-        bad(A + "@a", 3);
-        bad(A + "h=hold @h;", 4);
-        bad(A + "h=hold @b;", 4);
-        bad(A + "h=hold a;i=hold @a;", 4);
-        bad(AB + "u=union a @a;", 4);
-        bad(AB + "j=join b @b from 0 to 1;", 4);
-        bad("h=hold @a;" + A, 4);
-        bad(A + "u=union a @;", 2);
-        bad(AB + "u=union a b @5;", 2);
-        good(AB + "u=union a b;");
-        good(AB + "c=source 1 marks;u=union c a b;");
-        good(AB + "c=source 1 marks;d=source 1 marks;u=union c a b d;");
-        bad(AB + "c=source 1 marks;d=source 1 marks;e=source 1 marks;u=union c a b d @e;", 2);
-        bad(A + "d=delay a @;", 2);
-        bad(A + "d=delay @5 a;", 2);
-        bad(A + "d=delay a @- 5;", 2);
-        good(A + "d=delay a 0;");
-        good(A + "d=delay a 999999999999999999;");
-        bad(A + "h=hold a @5;", 2);
+        Check.bad(A + "@a=source 1 marks;", 3);
+        Check.bad(A + "@a", 3);
+        Check.bad(A + "h=hold @h;", 4);
+        Check.bad(A + "h=hold @b;", 4);
+        Check.bad(A + "h=hold a;i=hold @a;", 4);
+        Check.bad(AB + "u=union a @a;", 4);
+        Check.bad(AB + "j=join b @b from 0 to 1;", 4);
+        Check.bad("h=hold @a;" + A, 4);
+        Check.bad(A + "u=union a @;", 2);
+        Check.bad(AB + "u=union a b @5;", 2);
+        Check.good(AB + "u=union a b;");
+        Check.good(AB + "c=source 1 marks;u=union c a b;");
+        Check.good(AB + "c=source 1 marks;d=source 1 marks;u=union c a b d;");
+        Check.bad(AB + "c=source 1 marks;d=source 1 marks;e=source 1 marks;u=union c a b d @e;", 2);
+        Check.bad(A + "d=delay a @;", 2);
+        Check.bad(A + "d=delay @5 a;", 2);
+        Check.bad(A + "d=delay a @- 5;", 2);
+        Check.good(A + "d=delay a 0;");
+        Check.good(A + "d=delay a 999999999999999999;");
+        Check.bad(A + "h=hold a @5;", 2);
     }
 
     private static void joins() {
-        good(AB + "j=join a b from 0 to 0;");
-        good(AB + "j=join b a from -5 to -5;");
-        good(AB + "j=join b a from - 999999999999999999 to 999999999999999999;");
-        good(AB + "j=join a b from -0 to -0;");
-        good(AB + "j=join a b from 0 to -0;");
-        bad(AB + "j=join a b from 1 to @0;", 5);
-        bad(AB + "j=join a b from 1 to -@5;", 5);
-        bad(AB + "j=join a b from 0 to -@1;", 5);
-        bad(AB + "j=join a b from -4 to -@5;", 5);
-        bad(AB + "j=join a b from - @- 4 to 5;", 2);
-        bad(AB + "j=join a b from - @to 5;", 2);
-        bad(AB + "j=join a b @to 5;", 2);
-        bad(AB + "j=join a @from 5 to 5;", 2);
-        bad(AB + "j=join a b from 5 @;", 2);
-        bad(AB + "j=join a b from 5 @- to 6;", 2);
+        Check.good(AB + "j=join a b from 0 to 0;");
+        Check.good(AB + "j=join b a from -5 to -5;");
+        Check.good(AB + "j=join b a from - 999999999999999999 to 999999999999999999;");
+        Check.good(AB + "j=join a b from -0 to -0;");
+        Check.good(AB + "j=join a b from 0 to -0;");
+        Check.bad(AB + "j=join a b from 1 to @0;", 5);
+        Check.bad(AB + "j=join a b from 1 to -@5;", 5);
+        Check.bad(AB + "j=join a b from 0 to -@1;", 5);
+        Check.bad(AB + "j=join a b from -4 to -@5;", 5);
+        Check.bad(AB + "j=join a b from - @- 4 to 5;", 2);
+        Check.bad(AB + "j=join a b from - @to 5;", 2);
+        Check.bad(AB + "j=join a b @to 5;", 2);
+        Check.bad(AB + "j=join a @from 5 to 5;", 2);
+        Check.bad(AB + "j=join a b from 5 @;", 2);
+        Check.bad(AB + "j=join a b from 5 @- to 6;", 2);
     }
 
     private static void windows() {
-        good(A + "w=window a size 1 step 1;");
-        good(A + "w=window a size 1000000 step 250000;");
-        good(A + "w=window a size 1000000 step 1000000;");
-        bad(A + "w=window a size @0 step 1;", 5);
-        bad(A + "w=window a size @1000001 step 1000000;", 5);
-        bad(A + "w=window a size 1000000 step @249999;", 5);
-        bad(A + "w=window a size 5 step @6;", 5);
-        bad(A + "w=window a size 5 step @1;", 5);
-        good(A + "w=window a size 5 step 2;");
-        good(A + "w=window a size 4 step 1;");
-        bad(A + "w=window a size 1 step @0;", 5);
-        bad(A + "w=window a @step 1 size 1;", 2);
-        bad(A + "w=window a size 1 @;", 2);
+        Check.good(A + "w=window a size 1 step 1;");
+        Check.good(A + "w=window a size 1000000 step 250000;");
+        Check.good(A + "w=window a size 1000000 step 1000000;");
+        Check.bad(A + "w=window a size @0 step 1;", 5);
+        Check.bad(A + "w=window a size @1000001 step 1000000;", 5);
+        Check.bad(A + "w=window a size 1000000 step @249999;", 5);
+        Check.bad(A + "w=window a size 5 step @6;", 5);
+        Check.bad(A + "w=window a size 5 step @1;", 5);
+        Check.good(A + "w=window a size 5 step 2;");
+        Check.good(A + "w=window a size 4 step 1;");
+        Check.bad(A + "w=window a size 1 step @0;", 5);
+        Check.bad(A + "w=window a @step 1 size 1;", 2);
+        Check.bad(A + "w=window a size 1 @;", 2);
     }
 
     private static void aligns() {
-        good("align 0 0;");
-        good("align 3 999999999999999999;align 0 5;align 1 6;align 2 7;");
-        bad("align @4 5;", 5);
-        bad("align 1 5;align @1 6;", 5);
-        bad("align 1 5;align @001 6;", 5);
-        bad("align 1 @;", 2);
-        bad("align @a 5;", 2);
-        bad("align 1 @- 5;", 2);
+        Check.good("align 0 0;");
+        Check.good("align 3 999999999999999999;align 0 5;align 1 6;align 2 7;");
+        Check.bad("align @4 5;", 5);
+        Check.bad("align 1 5;align @1 6;", 5);
+        Check.bad("align 1 5;align @001 6;", 5);
+        Check.bad("align 1 @;", 2);
+        Check.bad("align @a 5;", 2);
+        Check.bad("align 1 @- 5;", 2);
         Check.due("streams of a text of aligns", 0, Check.build(new WatermarkJoin(), "align 0 0;"));
     }
 
-    private static String sources(int n) {
-        StringBuilder s = new StringBuilder();
-        for (int i = 0; i < n; i++) {
-            s.append((char) ('a' + i)).append("=source 1 marks;");
-        }
-        return s.toString();
-    }
-
     private static void many() {
-        String twelve = sources(12);
-        good(twelve);
-        bad(twelve + "@m=source 1 marks;", 6);
-        bad(twelve + "@m#", 6);
-        bad(twelve + "@a=", 3);
-        bad(twelve + "@=", 2);
-        good(twelve + "align 0 0;align 1 1;align 2 2;align 3 3;");
-        String six = sources(6);
+        String twelve = Check.sources(12);
+        Check.good(twelve);
+        Check.bad(twelve + "@m=source 1 marks;", 6);
+        Check.bad(twelve + "@m#", 6);
+        Check.bad(twelve + "@a=", 3);
+        Check.bad(twelve + "@=", 2);
+        Check.good(twelve + "align 0 0;align 1 1;align 2 2;align 3 3;");
+        String six = Check.sources(6);
         String joins = "p=join a b from 0 to 1;q=join c d from 0 to 1;r=join e f from 0 to 1;";
-        good(six + joins);
-        bad(six + joins + "s=@join p q from 0 to 1;", 6);
+        Check.good(six + joins);
+        Check.bad(six + joins + "s=@join p q from 0 to 1;", 6);
         String windows = "p=window a size 1 step 1;q=window b size 1 step 1;r=window c size 1 step 1;";
-        good(six + windows);
-        bad(six + windows + "s=@window d size 1 step 1;", 6);
-        good(six + windows + "s=join p q from 0 to 1;");
+        Check.good(six + windows);
+        Check.bad(six + windows + "s=@window d size 1 step 1;", 6);
+        Check.good(six + windows + "s=join p q from 0 to 1;");
         // Twelve streams and four groups are the most that can stand: 16 statements, so that a 21st one never comes.
-        bad(twelve + "align 0 0;align 1 1;align 2 2;align 3 3;align @0 4;", 5);
+        Check.bad(twelve + "align 0 0;align 1 1;align 2 2;align 3 3;align @0 4;", 5);
     }
 
     private static void places() {
@@ -188,8 +171,8 @@ public final class TextTest {
         while (s.length() < 599) {
             s.append(' ');
         }
-        good(s + ";");
-        bad(s + " @", 2);
+        Check.good(s + ";");
+        Check.bad(s + " @", 2);
     }
 
     public static void main(String[] args) {
