@@ -465,26 +465,25 @@ public final class EdgeOfRowsTest {
         Check.due("and END then", 0, x.kept(2, 0));
     }
 
-    /** "a WEIGHT (of 32 bits, wrapping)": no 512 calls make such weights, so these runs are longer than the document's. */
-    private static void weightsWrap() {
-        String text = "a=source 1 marks;b=source 1 marks;v=window a size 2 step 1;w=window b size 1 step 1;"
-            + "j=join v w from -9 to 9;x=window j size 9 step 9;";
-        WatermarkJoin x = Check.built(text);
-        for (int i = 0; i < 40_000; i++) {
-            x.row(0, 0, 1, 0);
+    /**
+     * "a WEIGHT (of 32 bits, wrapping)": three joins and three windows make weights of 96 n^3 out of 3 n + 6 rows, so that
+     * none wraps within 512 calls; these are nearly the greatest ones that can be.
+     */
+    private static void weightsAreGreat() {
+        WatermarkJoin x = Check.built(Check.sources(4) + "j=join a b from 0 to 0;t=window j size 4 step 1;"
+            + "k=join c t from 0 to 9;u=window k size 40 step 10;l=join d u from 0 to 99;v=window l size 99 step 99;");
+        for (int i = 0; i < 6; i++) {
             x.row(1, 0, 1, 0);
         }
-        x.end(0, 0);
         x.end(1, 0);
-        Check.due("a sum that wraps: twice 1600000000", "5 8 0 -1094967296", Check.outs(x, 0));
-        WatermarkJoin y = Check.built(text.substring(0, text.indexOf("x=")));
-        for (int i = 0; i < 46_341; i++) {
-            y.row(0, 0, 1, 0);
-            y.row(1, 0, 1, 0);
+        for (int source : new int[] {0, 2, 3}) {
+            for (int i = 0; i < 150; i++) {
+                x.row(source, 0, 1, 0);
+            }
+            x.end(source, 0);
         }
-        y.end(0, 0);
-        y.end(1, 0);
-        Check.due("a product that wraps: 46341 * 46341", "4 1 0 -2147479015, 4 2 0 -2147479015", Check.outs(y, 0));
+        Check.due("96 * 150 * 150 * 150", "9 98 0 324000000", Check.outs(x, 0));
+        Check.due("rows or weights that were lost", 0, x.told(4));
     }
 
     /** "the least PROMISE of its ACTIVE parts; without such: END, if all its parts are ENDED, else none" */
@@ -675,7 +674,7 @@ public final class EdgeOfRowsTest {
         farRowsMeetAndTakeNoPlace();
         whatIsLeftOfFarRows();
         farByTheOtherInput();
-        weightsWrap();
+        weightsAreGreat();
         goalsOfSources();
         goalsOfUnionsAndJoins();
         goalsOfDelaysAndWindows();
